@@ -1118,16 +1118,13 @@ public final class HashLab {
         }
 
         private static int kindOf(char sign) {
-            switch (sign) {
-                case 'l':
-                    return LINEAR;
-                case 't':
-                    return TRIANGULAR;
-                case 'd':
-                    return DOUBLE_HASHING;
-                default:
-                    return NONE;
+            if (sign == 'l') {
+                return LINEAR;
             }
+            if (sign == 't') {
+                return TRIANGULAR;
+            }
+            return sign == 'd' ? DOUBLE_HASHING : NONE;
         }
 
         /** Returns the number, or NONE if there is no digit. */

@@ -100,6 +100,22 @@ final class ChangesTest {
         edge.put(7, 7);
         Check.equal("2 twice three of eight do not exceed 75", Labs.state(edge),
                 "8/0/0/75/1/0/3/0:|7|||||2|1|1=1,2=2,7=7");
+        edge.remove(2);
+        edge.put(8, 8);
+        edge.remove(8);
+        edge.put(10, 10);
+        edge.remove(10);
+        edge.put(3, 3);
+        edge.put(4, 4);
+        Check.equal("2 no rebuild up to six used", edge.rebuilds(), 1);
+        edge.put(5, 5);
+        Check.equal("2 twice five of eight exceed 75", edge.capacity(), 16);
+        HashLab half = Labs.with(1, 2, 3, 4, 5);
+        half.remove(3);
+        half.remove(4);
+        half.remove(5);
+        half.put(6, 6);
+        Check.equal("2 twice three of eight exceed 70", half.capacity(), 16);
         HashLab tomb = Labs.with(1, 2, 3, 4, 5);
         tomb.remove(5);
         tomb.put(13, 1);

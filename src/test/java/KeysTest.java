@@ -154,6 +154,13 @@ final class KeysTest {
         lab.remove(4);
         lab.remove(8);
         Check.equal("26 one probe each", lab.hardestKey(), 12);
+        HashLab twice = Labs.with(0, 8, 13, 21);
+        Check.equal("26 the smallest, of which the other comes later", twice.hardestKey(), 8);
+        twice.setLimit(90);
+        Labs.putAll(twice, 16, 10);
+        Check.equal("26 neither first nor last nor smallest", twice.hardestKey(), 16);
+        twice.remove(8);
+        Check.equal("26 tombstones keep its probes", twice.hardestKey(), 16);
         lab.remove(12);
         lab.remove(16);
         Check.throwsExactly("26 tombstones alone", ELEMENT, lab::hardestKey);

@@ -48,7 +48,7 @@ final class ProgramsTest {
         Check.equal("45 state again", Labs.state(lab).substring(0, 15), "8/2/0/25/5/0/2/");
         Labs.run(lab, "kind l");
         Check.equal("45 linear", lab.kind(), 0);
-        Check.equal("45 ten commands", Labs.run(lab, "clear;clear;clear;clear;clear;clear;clear;clear;clear;clear"), 10);
+        Check.equal("45 ten commands", Labs.run(lab, "clear;".repeat(9) + "clear"), 10);
         Check.equal("45 cleared", lab.size(), 0);
         Check.equal("45 in order", Labs.run(lab, "put 1=1;put 1=2;remove 1;put 1=3"), 4);
         Check.equal("45 the last counts", lab.get(1), 3);
@@ -96,7 +96,7 @@ final class ProgramsTest {
             {"limit ", 6}, {"limit 1000", 9}, {"limit -1", 6}, {"seed", 4}, {"seed 1000", 8}, {"seed x", 5},
             {"rebuil", 6}, {"rebuild ", 7}, {"rebuild;", 8}, {"rebuild;;", 8}, {"rebuild; clear", 8}, {"clear;re", 8},
             {"clearclear", 5}, {"clear;put 1=1;sead 1", 16}, {"put 1=1 ", 7}, {"put 1\u0661=1", 5}, {"remove 1=1", 8},
-            {"clear;clear;clear;clear;clear;clear;clear;clear;clear;clear;", 60}};
+            {"clear;".repeat(10), 60}};
         for (Object[] pair : texts) {
             HashLab lab = Labs.with(1);
             String state = Labs.state(lab);

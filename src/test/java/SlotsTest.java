@@ -85,7 +85,7 @@ final class SlotsTest {
         Check.equal("33 around the end", lab.largestClusterByHalves(), 4);
     }
 
-    /** All sets of at most seven used slots of eight: key 7k mod 8 of slot s is 7s mod 8, as 49 mod 8 is 1. */
+    /** All sets of at most seven used slots of eight: key 7s mod 8 is at home in slot s, as 49 mod 8 is 1. */
     private static void promises30To33Patterns() {
         for (int pattern = 0; pattern < 255; pattern++) {
             HashLab lab = new HashLab();

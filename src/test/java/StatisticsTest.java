@@ -9,6 +9,7 @@ final class StatisticsTest {
         promises36And37Load();
         promises34To37Bits();
         promise38Trial();
+        promise38TrialOfGreatNumbers();
         promise38TrialSettings();
         promise39BestKind();
         promises38And39OutOfRange();
@@ -72,10 +73,13 @@ final class StatisticsTest {
         }
     }
 
-    /** From 1 the keys are 196, 6897, 4310 (14317 - 10007 = 4310 behind 137 * 6897 + 59 mod 10007), and so on. */
+    /** From 1 the keys are 196, 6897, 4290, 7383, 823 and 2733, at home in 4, 7, 6, 1, 1 and 3 of 8 slots. */
     private static void promise38Trial() {
         HashLab lab = new HashLab();
-        Check.equal("38 one key", lab.trial(0, 1, 1), 1);
+        int[] sums = {1, 2, 3, 4, 6, 7};
+        for (int count = 1; count <= sums.length; count++) {
+            Check.equal("38 " + count + " keys from 1", lab.trial(0, 1, count), sums[count - 1]);
+        }
         Check.equal("38 forty keys, greatest start", lab.trial(0, 10006, 40), new Model().trial(0, 10006, 40));
         String state = Labs.state(lab);
         for (int kind = 0; kind < 3; kind++) {
@@ -88,6 +92,25 @@ final class StatisticsTest {
         }
         Check.equal("38 nothing changed", Labs.state(lab), state);
         Check.throwsExactly("38 is no change", IllegalStateException.class, lab::undo);
+    }
+
+    /** The starts from which the first number is 10000 or more, and so the first key is 0 to 6. */
+    private static void promise38TrialOfGreatNumbers() {
+        HashLab lab = new HashLab();
+        Model model = new Model();
+        int starts = 0;
+        for (int start = 0; start < 10007; start++) {
+            if ((137 * start + 59) % 10007 >= 10000) {
+                starts++;
+                for (int kind = 0; kind < 3; kind++) {
+                    for (int count = 1; count <= 40; count++) {
+                        Check.equal("38 great number, trial " + kind + " " + start + " " + count,
+                                lab.trial(kind, start, count), model.trial(kind, start, count));
+                    }
+                }
+            }
+        }
+        Check.equal("38 seven such starts", starts, 7);
     }
 
     private static void promise38TrialSettings() {
