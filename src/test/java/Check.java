@@ -1,17 +1,36 @@
+import java.util.function.Consumer;
+import java.util.function.Supplier;
+
 /** Counts and prints the answers that are not as due. */
 final class Check {
 
     private static int wrong = 0;
     private static int checked = 0;
+    private static int checkedBefore = 0;
+    private static String sentence = "";
 
     private Check() {
+    }
+
+    /** Begins the checks of a sentence of the document; its promise and its words stand ahead of their names. */
+    static void sentence(String promise, String words) {
+        endSentence();
+        sentence = promise + " \"" + words + "\" ";
+        checkedBefore = checked;
+    }
+
+    private static void endSentence() {
+        if (!sentence.isEmpty() && checked == checkedBefore) {
+            wrong++;
+            System.out.println(sentence + "has no check");
+        }
     }
 
     static void equal(String what, Object got, Object due) {
         checked++;
         if (!due.equals(got)) {
             wrong++;
-            System.out.println(what + " answered " + got + ", due is " + due);
+            System.out.println(sentence + what + " answered " + got + ", due is " + due);
         }
     }
 
@@ -33,8 +52,24 @@ final class Check {
         equal(what, got, due.getName());
     }
 
+    /** The call must throw, and leave its laboratory like another one that was made in the same way. */
+    static void refused(String what, Class<? extends RuntimeException> due, Supplier<HashLab> maker,
+            Consumer<HashLab> call) {
+        HashLab lab = maker.get();
+        throwsExactly(what, due, () -> call.accept(lab));
+        equal(what + " changed something and", Labs.everything(lab), Labs.everything(maker.get()));
+    }
+
+    /** The call must not throw, and leave its laboratory like another one that was made in the same way. */
+    static void changesNothing(String what, Supplier<HashLab> maker, Consumer<HashLab> call) {
+        HashLab lab = maker.get();
+        call.accept(lab);
+        equal(what + " changed something and", Labs.everything(lab), Labs.everything(maker.get()));
+    }
+
     /** Ends the program with exit code 1 if an answer was not as due, or if none was looked at. */
     static void end() {
+        endSentence();
         System.out.println(checked + " answers, " + wrong + " not as due");
         if (wrong > 0 || checked == 0) {
             System.exit(1);

@@ -8,7 +8,9 @@ final class StatisticsTest {
         promises34And35MeanProbes();
         promises36And37Load();
         promises34To37Bits();
+        promises34To37BitsWithTombstones();
         promise38Trial();
+        promise38TrialsFromManyStarts();
         promise38TrialOfGreatNumbers();
         promise38TrialSettings();
         promise39BestKind();
@@ -48,29 +50,41 @@ final class StatisticsTest {
         Check.equal("36 one of eight", lab.load(), 0.125f);
     }
 
-    /** Goes from a table with one long cluster, whose mean is great, over all loads. */
+    /** Goes over all loads, up to a table with one long cluster, whose mean is great. */
     private static void promises34To37Bits() {
+        for (int kind = 0; kind < 3; kind++) {
+            HashLab lab = new HashLab();
+            lab.setKind(kind);
+            lab.setLimit(90);
+            for (int keys = 1; keys <= 57; keys++) {
+                lab.put(64 * keys, 0);
+                Check.equal("36 " + keys + " keys", lab.load(), (float) keys / (float) lab.capacity());
+                bitsAgree(lab, keys + " keys");
+            }
+            if (kind == 0) {
+                Check.equal("34 one cluster", lab.meanProbes(), 29.0);
+            }
+        }
+    }
+
+    private static void promises34To37BitsWithTombstones() {
         for (int kind = 0; kind < 3; kind++) {
             HashLab lab = new HashLab();
             lab.setKind(kind);
             lab.setLimit(90);
             for (int key = 0; key < 57; key++) {
                 lab.put(64 * key, 0);
-                Check.equal("36 " + (key + 1) + " keys", lab.load(), (float) (key + 1) / (float) lab.capacity());
-                Check.equal("37 " + (key + 1) + " keys", lab.loadBits(), Float.floatToIntBits(lab.load()));
-                Check.equal("35 " + (key + 1) + " keys", lab.meanProbesBits(),
-                        Double.doubleToLongBits(lab.meanProbes()));
-            }
-            if (kind == 0) {
-                Check.equal("34 one cluster", lab.meanProbes(), 29.0);
             }
             for (int key = 0; key < 56; key++) {
                 lab.remove(64 * key);
-                Check.equal("37 " + (56 - key) + " keys left", lab.loadBits(), Float.floatToIntBits(lab.load()));
-                Check.equal("35 " + (56 - key) + " keys left", lab.meanProbesBits(),
-                        Double.doubleToLongBits(lab.meanProbes()));
+                bitsAgree(lab, (56 - key) + " keys left");
             }
         }
+    }
+
+    private static void bitsAgree(HashLab lab, String what) {
+        Check.equal("37 " + what, lab.loadBits(), Float.floatToIntBits(lab.load()));
+        Check.equal("35 " + what, lab.meanProbesBits(), Double.doubleToLongBits(lab.meanProbes()));
     }
 
     /** From 1 the keys are 196, 6897, 4290, 7383, 823 and 2733, at home in 4, 7, 6, 1, 1 and 3 of 8 slots. */
@@ -81,26 +95,30 @@ final class StatisticsTest {
             Check.equal("38 " + count + " keys from 1", lab.trial(0, 1, count), sums[count - 1]);
         }
         Check.equal("38 forty keys, greatest start", lab.trial(0, 10006, 40), new Model().trial(0, 10006, 40));
-        String state = Labs.state(lab);
-        for (int kind = 0; kind < 3; kind++) {
-            for (int start = 0; start < 10007; start += 97) {
+        Check.equal("38 nothing changed", Labs.state(lab), Labs.state(new HashLab()));
+        Check.throwsExactly("38 is no change", IllegalStateException.class, lab::undo);
+    }
+
+    private static void promise38TrialsFromManyStarts() {
+        for (int start = 0; start < 10007; start += 97) {
+            HashLab lab = new HashLab();
+            Model model = new Model();
+            for (int kind = 0; kind < 3; kind++) {
                 for (int count = 1; count <= 40; count += 13) {
                     Check.equal("38 trial " + kind + " " + start + " " + count, lab.trial(kind, start, count),
-                            new Model().trial(kind, start, count));
+                            model.trial(kind, start, count));
                 }
             }
         }
-        Check.equal("38 nothing changed", Labs.state(lab), state);
-        Check.throwsExactly("38 is no change", IllegalStateException.class, lab::undo);
     }
 
     /** The starts from which the first number is 10000 or more, and so the first key is 0 to 6. */
     private static void promise38TrialOfGreatNumbers() {
-        HashLab lab = new HashLab();
-        Model model = new Model();
         int starts = 0;
         for (int start = 0; start < 10007; start++) {
             if ((137 * start + 59) % 10007 >= 10000) {
+                HashLab lab = new HashLab();
+                Model model = new Model();
                 starts++;
                 for (int kind = 0; kind < 3; kind++) {
                     for (int count = 1; count <= 40; count++) {
@@ -133,19 +151,19 @@ final class StatisticsTest {
     }
 
     private static void promise39BestKind() {
-        HashLab lab = new HashLab();
-        Check.equal("39 of several the smallest", lab.bestKind(1, 1), 0);
+        Check.equal("39 of several the smallest", new HashLab().bestKind(1, 1), 0);
         boolean[] seen = new boolean[3];
         for (int start = 0; start < 10007; start += 31) {
+            HashLab lab = new HashLab();
             int best = 0;
             for (int kind = 1; kind < 3; kind++) {
                 best = lab.trial(kind, start, 40) < lab.trial(best, start, 40) ? kind : best;
             }
             Check.equal("39 start " + start, lab.bestKind(start, 40), best);
             seen[best] = true;
+            Check.equal("39 nothing changed", Labs.state(lab), "8/0/0/70/0/0/0/0:||||||||");
         }
         Check.isTrue("39 each kind wins somewhere", seen[0] && seen[1] && seen[2]);
-        Check.equal("39 nothing changed", Labs.state(lab), "8/0/0/70/0/0/0/0:||||||||");
     }
 
     private static void promises38And39OutOfRange() {
@@ -164,22 +182,21 @@ final class StatisticsTest {
     }
 
     private static void promise40IsConsistent() {
-        HashLab lab = new HashLab();
-        Check.isTrue("40 empty", lab.isConsistent());
-        lab.setLimit(90);
         for (int kind = 0; kind < 3; kind++) {
+            HashLab lab = new HashLab();
+            Check.isTrue("40 empty", lab.isConsistent());
+            lab.setLimit(90);
             lab.setKind(kind);
             for (int key = 0; key < 57; key++) {
                 lab.put(64 * key + kind, key);
-                Check.isTrue("40 with " + lab.size() + " keys", lab.isConsistent());
+                Check.isTrue("40 with " + (key + 1) + " keys", lab.isConsistent());
             }
-            for (int key = 0; key < 57; key += 3) {
+            for (int key = 0; key < 57; key += 2) {
                 lab.remove(64 * key + kind);
             }
             String state = Labs.state(lab);
             Check.isTrue("40 with tombstones", lab.isConsistent());
             Check.equal("40 nothing changed", Labs.state(lab), state);
-            lab.clear();
         }
     }
 }

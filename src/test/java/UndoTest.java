@@ -1,3 +1,5 @@
+import java.util.function.Consumer;
+
 /** Promises 48 to 50: undo and snapshots. */
 final class UndoTest {
 
@@ -13,28 +15,28 @@ final class UndoTest {
         Check.end();
     }
 
-    private static void undone(String what, HashLab lab, Runnable change) {
+    private static void undone(String what, Consumer<HashLab> change) {
+        HashLab lab = Labs.with(1, 2, 3, 4, 5);
+        lab.remove(3);
         String state = Labs.state(lab);
-        change.run();
-        lab.undo();
+        change.accept(lab);
+        Check.equal("48 six are left after " + what, lab.undo(), 6);
         Check.equal("48 " + what, Labs.state(lab), state);
+        Check.equal("48 five are left after " + what, lab.undo(), 5);
+        Check.equal("48 the removed key is back after " + what, lab.get(3), 3);
     }
 
     private static void promise48UndoOfEachChange() {
-        HashLab lab = Labs.with(1, 2, 3, 4, 5);
-        lab.remove(3);
-        undone("put that grows", lab, () -> lab.put(6, 6));
-        undone("put of a contained key", lab, () -> lab.put(1, 9));
-        undone("put of the same value", lab, () -> lab.put(1, 1));
-        undone("remove", lab, () -> lab.remove(1));
-        undone("setKind", lab, () -> lab.setKind(2));
-        undone("setSeed", lab, () -> lab.setSeed(9));
-        undone("setLimit", lab, () -> lab.setLimit(90));
-        undone("rebuild", lab, () -> lab.rebuild());
-        undone("clear", lab, () -> lab.clear());
-        undone("run", lab, () -> Labs.run(lab, "kind t;seed 3;limit 25;remove 1;clear"));
-        Check.equal("48 all six are left", lab.undo(), 5);
-        Check.equal("48 the removed key is back", lab.get(3), 3);
+        undone("put that grows", lab -> lab.put(6, 6));
+        undone("put of a contained key", lab -> lab.put(1, 9));
+        undone("put of the same value", lab -> lab.put(1, 1));
+        undone("remove", lab -> lab.remove(1));
+        undone("setKind", lab -> lab.setKind(2));
+        undone("setSeed", lab -> lab.setSeed(9));
+        undone("setLimit", lab -> lab.setLimit(90));
+        undone("rebuild", lab -> lab.rebuild());
+        undone("clear", lab -> lab.clear());
+        undone("run", lab -> Labs.run(lab, "kind t;seed 3;limit 25;remove 1;clear"));
     }
 
     private static void promise48EightLatest() {
