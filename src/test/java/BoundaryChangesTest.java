@@ -53,20 +53,20 @@ final class BoundaryChangesTest {
 
     private static void promise1NothingToThrowAway() {
         Check.sentence("1", "Creates a laboratory with an empty table. (what it refuses)");
-        Check.refused("remove", ELEMENT, HashLab::new, lab -> lab.remove(0));
-        Check.refused("get", ELEMENT, HashLab::new, lab -> lab.get(0));
-        Check.refused("slotOf", ELEMENT, HashLab::new, lab -> lab.slotOf(0));
-        Check.refused("probesBySlot", ELEMENT, HashLab::new, lab -> lab.probesBySlot(0));
-        Check.refused("keyAt", ELEMENT, HashLab::new, lab -> lab.keyAt(0));
-        Check.refused("hardestKey", ELEMENT, HashLab::new, HashLab::hardestKey);
-        Check.refused("keyIn", ELEMENT, HashLab::new, lab -> lab.keyIn(0));
-        Check.refused("meanProbes", ArithmeticException.class, HashLab::new, HashLab::meanProbes);
-        Check.refused("meanProbesBits", ArithmeticException.class, HashLab::new, HashLab::meanProbesBits);
-        Check.refused("charAt", IndexOutOfBoundsException.class, HashLab::new, lab -> lab.charAt(0));
-        Check.refused("errorPosition", ELEMENT, HashLab::new, HashLab::errorPosition);
-        Check.refused("failedCommand", ELEMENT, HashLab::new, HashLab::failedCommand);
-        Check.refused("undo", STATE, HashLab::new, HashLab::undo);
-        Check.refused("restore", STATE, HashLab::new, HashLab::restore);
+        Labs.refused("remove", ELEMENT, HashLab::new, lab -> lab.remove(0));
+        Labs.refused("get", ELEMENT, HashLab::new, lab -> lab.get(0));
+        Labs.refused("slotOf", ELEMENT, HashLab::new, lab -> lab.slotOf(0));
+        Labs.refused("probesBySlot", ELEMENT, HashLab::new, lab -> lab.probesBySlot(0));
+        Labs.refused("keyAt", ELEMENT, HashLab::new, lab -> lab.keyAt(0));
+        Labs.refused("hardestKey", ELEMENT, HashLab::new, HashLab::hardestKey);
+        Labs.refused("keyIn", ELEMENT, HashLab::new, lab -> lab.keyIn(0));
+        Labs.refused("meanProbes", ArithmeticException.class, HashLab::new, HashLab::meanProbes);
+        Labs.refused("meanProbesBits", ArithmeticException.class, HashLab::new, HashLab::meanProbesBits);
+        Labs.refused("charAt", IndexOutOfBoundsException.class, HashLab::new, lab -> lab.charAt(0));
+        Labs.refused("errorPosition", ELEMENT, HashLab::new, HashLab::errorPosition);
+        Labs.refused("failedCommand", ELEMENT, HashLab::new, HashLab::failedCommand);
+        Labs.refused("undo", STATE, HashLab::new, HashLab::undo);
+        Labs.refused("restore", STATE, HashLab::new, HashLab::restore);
     }
 
     private static void promise2LeastAndGreatest() {
@@ -138,21 +138,21 @@ final class BoundaryChangesTest {
     private static void promise2OutOfRange() {
         Check.sentence("2", "Throws `IllegalArgumentException` if the key or the value is out of range");
         for (int key : new int[] {-1, -2, 10000, Integer.MIN_VALUE, Integer.MAX_VALUE}) {
-            Check.refused("key " + key, ARGUMENT, Labs::busy, lab -> lab.put(key, 0));
+            Labs.refused("key " + key, ARGUMENT, Labs::busy, lab -> lab.put(key, 0));
         }
         for (int value : new int[] {-1000, 1000, Integer.MIN_VALUE, Integer.MAX_VALUE}) {
-            Check.refused("value " + value + " of a new key", ARGUMENT, Labs::busy, lab -> lab.put(7, value));
-            Check.refused("value " + value + " of a contained key", ARGUMENT, Labs::busy, lab -> lab.put(1, value));
+            Labs.refused("value " + value + " of a new key", ARGUMENT, Labs::busy, lab -> lab.put(7, value));
+            Labs.refused("value " + value + " of a contained key", ARGUMENT, Labs::busy, lab -> lab.put(1, value));
         }
-        Check.refused("both", ARGUMENT, Labs::busy, lab -> lab.put(10000, 1000));
+        Labs.refused("both", ARGUMENT, Labs::busy, lab -> lab.put(10000, 1000));
     }
 
     private static void promise2CannotBePut() {
         Check.sentence("2", "Throws `IllegalStateException` if the key is new and cannot be put");
-        Check.refused("a new key", STATE, Labs::crowded, lab -> lab.put(6, 6));
-        Check.refused("the least key", STATE, Labs::crowded, lab -> lab.put(0, -999));
-        Check.refused("the greatest key", STATE, Labs::crowded, lab -> lab.put(9999, 999));
-        Check.refused("a removed key", STATE, () -> {
+        Labs.refused("a new key", STATE, Labs::crowded, lab -> lab.put(6, 6));
+        Labs.refused("the least key", STATE, Labs::crowded, lab -> lab.put(0, -999));
+        Labs.refused("the greatest key", STATE, Labs::crowded, lab -> lab.put(9999, 999));
+        Labs.refused("a removed key", STATE, () -> {
             HashLab lab = Labs.with(1, 2, 3, 4, 5);
             lab.remove(5);
             lab.setLimit(25);
@@ -207,9 +207,9 @@ final class BoundaryChangesTest {
     private static void promise3NotContained() {
         Check.sentence("3", "Throws `NoSuchElementException` if the key is not contained");
         for (int key : new int[] {2, 4, 9999, -1, -2, 10000, Integer.MIN_VALUE, Integer.MAX_VALUE}) {
-            Check.refused("key " + key, ELEMENT, Labs::busy, lab -> lab.remove(key));
-            Check.refused("in an empty table, key " + key, ELEMENT, HashLab::new, lab -> lab.remove(key));
-            Check.refused("among tombstones, key " + key, ELEMENT,
+            Labs.refused("key " + key, ELEMENT, Labs::busy, lab -> lab.remove(key));
+            Labs.refused("in an empty table, key " + key, ELEMENT, HashLab::new, lab -> lab.remove(key));
+            Labs.refused("among tombstones, key " + key, ELEMENT,
                     () -> Labs.buried(Labs.atHomes(0, 1, 2, 3, 4, 5, 6)), lab -> lab.remove(key));
         }
     }
@@ -281,7 +281,7 @@ final class BoundaryChangesTest {
     private static void promise5NoSuchKind() {
         Check.sentence("5", "Throws `IllegalArgumentException` if there is no such kind");
         for (int kind : new int[] {-1, 3, Integer.MIN_VALUE, Integer.MAX_VALUE}) {
-            Check.refused("kind " + kind, ARGUMENT, Labs::busy, lab -> lab.setKind(kind));
+            Labs.refused("kind " + kind, ARGUMENT, Labs::busy, lab -> lab.setKind(kind));
         }
     }
 
@@ -318,7 +318,7 @@ final class BoundaryChangesTest {
     private static void promise6OutOfRange() {
         Check.sentence("6", "Throws `IllegalArgumentException` if the seed is out of range");
         for (int seed : new int[] {-1, 1000, Integer.MIN_VALUE, Integer.MAX_VALUE}) {
-            Check.refused("seed " + seed, ARGUMENT, Labs::busy, lab -> lab.setSeed(seed));
+            Labs.refused("seed " + seed, ARGUMENT, Labs::busy, lab -> lab.setSeed(seed));
         }
     }
 
@@ -350,7 +350,7 @@ final class BoundaryChangesTest {
     private static void promise7OutOfRange() {
         Check.sentence("7", "Throws `IllegalArgumentException` if the limit is out of range");
         for (int limit : new int[] {24, 91, 0, -25, 100, Integer.MIN_VALUE, Integer.MAX_VALUE}) {
-            Check.refused("limit " + limit, ARGUMENT, Labs::busy, lab -> lab.setLimit(limit));
+            Labs.refused("limit " + limit, ARGUMENT, Labs::busy, lab -> lab.setLimit(limit));
         }
     }
 

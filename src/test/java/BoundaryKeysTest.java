@@ -97,7 +97,7 @@ final class BoundaryKeysTest {
     private static void promise19NotContained() {
         Check.sentence("19", "Throws `NoSuchElementException` if the key is not contained");
         for (int key : ABSENT) {
-            Check.refused("key " + key, ELEMENT, Labs::busy, lab -> lab.get(key));
+            Labs.refused("key " + key, ELEMENT, Labs::busy, lab -> lab.get(key));
             Check.throwsExactly("in an empty table, key " + key, ELEMENT, () -> new HashLab().get(key));
             Check.throwsExactly("among tombstones, key " + key, ELEMENT, () -> graves().get(key));
         }
@@ -121,7 +121,7 @@ final class BoundaryKeysTest {
     private static void promise20NotContained() {
         Check.sentence("20", "Throws `NoSuchElementException` if the key is not contained");
         for (int key : ABSENT) {
-            Check.refused("key " + key, ELEMENT, Labs::busy, lab -> lab.slotOf(key));
+            Labs.refused("key " + key, ELEMENT, Labs::busy, lab -> lab.slotOf(key));
             Check.throwsExactly("in an empty table, key " + key, ELEMENT, () -> new HashLab().slotOf(key));
             Check.throwsExactly("among tombstones, key " + key, ELEMENT, () -> graves().slotOf(key));
         }
@@ -148,16 +148,16 @@ final class BoundaryKeysTest {
     private static void promise21KeyOutOfRange() {
         Check.sentence("21", "Throws `IllegalArgumentException` if the key is out of range");
         for (int key : NO_KEYS) {
-            Check.refused("key " + key, ARGUMENT, Labs::busy, lab -> lab.probe(key, 0));
-            Check.refused("greatest index, key " + key, ARGUMENT, Labs::busy, lab -> lab.probe(key, 7));
+            Labs.refused("key " + key, ARGUMENT, Labs::busy, lab -> lab.probe(key, 0));
+            Labs.refused("greatest index, key " + key, ARGUMENT, Labs::busy, lab -> lab.probe(key, 7));
         }
     }
 
     private static void promise21IndexOutOfRange() {
         Check.sentence("21", "Throws `IndexOutOfBoundsException` if the index is negative or not less than the capacity");
         for (int index : new int[] {-1, 8, Integer.MIN_VALUE, Integer.MAX_VALUE}) {
-            Check.refused("index " + index, INDEX, Labs::busy, lab -> lab.probe(1, index));
-            Check.refused("of a key not contained, index " + index, INDEX, Labs::busy, lab -> lab.probe(9999, index));
+            Labs.refused("index " + index, INDEX, Labs::busy, lab -> lab.probe(1, index));
+            Labs.refused("of a key not contained, index " + index, INDEX, Labs::busy, lab -> lab.probe(9999, index));
         }
         for (int capacity : new int[] {8, 16, 32, 64}) {
             HashLab lab = Labs.emptyOf(capacity);
@@ -190,8 +190,8 @@ final class BoundaryKeysTest {
     private static void promise22KeyOutOfRange() {
         Check.sentence("22", "Throws `IllegalArgumentException` if the key is out of range");
         for (int key : NO_KEYS) {
-            Check.refused("double hashing, key " + key, ARGUMENT, Labs::busy, lab -> lab.step(key));
-            Check.refused("linear probing, key " + key, ARGUMENT, HashLab::new, lab -> lab.step(key));
+            Labs.refused("double hashing, key " + key, ARGUMENT, Labs::busy, lab -> lab.step(key));
+            Labs.refused("linear probing, key " + key, ARGUMENT, HashLab::new, lab -> lab.step(key));
         }
     }
 
@@ -227,8 +227,8 @@ final class BoundaryKeysTest {
     private static void promise23KeyOutOfRange() {
         Check.sentence("23", "Throws `IllegalArgumentException` if the key is out of range");
         for (int key : NO_KEYS) {
-            Check.refused("key " + key, ARGUMENT, Labs::busy, lab -> lab.probes(key));
-            Check.refused("in an empty table, key " + key, ARGUMENT, HashLab::new, lab -> lab.probes(key));
+            Labs.refused("key " + key, ARGUMENT, Labs::busy, lab -> lab.probes(key));
+            Labs.refused("in an empty table, key " + key, ARGUMENT, HashLab::new, lab -> lab.probes(key));
         }
         Check.equal("the least", new HashLab().probes(0), 1);
         Check.equal("the greatest", new HashLab().probes(9999), 1);
@@ -280,7 +280,7 @@ final class BoundaryKeysTest {
     private static void promise24NotContained() {
         Check.sentence("24", "Throws `NoSuchElementException` if the key is not contained");
         for (int key : ABSENT) {
-            Check.refused("key " + key, ELEMENT, Labs::busy, lab -> lab.probesBySlot(key));
+            Labs.refused("key " + key, ELEMENT, Labs::busy, lab -> lab.probesBySlot(key));
             Check.throwsExactly("in an empty table, key " + key, ELEMENT, () -> new HashLab().probesBySlot(key));
             Check.throwsExactly("among tombstones, key " + key, ELEMENT, () -> graves().probesBySlot(key));
         }
@@ -314,11 +314,11 @@ final class BoundaryKeysTest {
     private static void promise25NoSuchRank() {
         Check.sentence("25", "Throws `NoSuchElementException` if there is no such rank");
         for (int rank : new int[] {-1, 2, 3, 8, Integer.MIN_VALUE, Integer.MAX_VALUE}) {
-            Check.refused("rank " + rank + " of two", ELEMENT, Labs::busy, lab -> lab.keyAt(rank));
-            Check.refused("in an empty table, rank " + rank, ELEMENT, HashLab::new, lab -> lab.keyAt(rank));
+            Labs.refused("rank " + rank + " of two", ELEMENT, Labs::busy, lab -> lab.keyAt(rank));
+            Labs.refused("in an empty table, rank " + rank, ELEMENT, HashLab::new, lab -> lab.keyAt(rank));
         }
-        Check.refused("in an empty table", ELEMENT, HashLab::new, lab -> lab.keyAt(0));
-        Check.refused("among tombstones", ELEMENT, BoundaryKeysTest::graves, lab -> lab.keyAt(0));
+        Labs.refused("in an empty table", ELEMENT, HashLab::new, lab -> lab.keyAt(0));
+        Labs.refused("among tombstones", ELEMENT, BoundaryKeysTest::graves, lab -> lab.keyAt(0));
     }
 
     private static void promise26SmallestOfSeveral() {
@@ -357,9 +357,9 @@ final class BoundaryKeysTest {
 
     private static void promise26NoKeys() {
         Check.sentence("26", "Throws `NoSuchElementException` if there are no keys");
-        Check.refused("an empty table", ELEMENT, HashLab::new, HashLab::hardestKey);
-        Check.refused("tombstones alone", ELEMENT, BoundaryKeysTest::graves, HashLab::hardestKey);
-        Check.refused("a cleared table", ELEMENT, () -> {
+        Labs.refused("an empty table", ELEMENT, HashLab::new, HashLab::hardestKey);
+        Labs.refused("tombstones alone", ELEMENT, BoundaryKeysTest::graves, HashLab::hardestKey);
+        Labs.refused("a cleared table", ELEMENT, () -> {
             HashLab lab = Labs.busy();
             lab.clear();
             return lab;
@@ -369,14 +369,14 @@ final class BoundaryKeysTest {
     private static void promises18To26ChangeNothing() {
         Check.sentence("18 to 26", "Nothing is promised beyond the answers and state changes described above");
         Supplier<HashLab> busy = Labs::busy;
-        Check.changesNothing("contains", busy, lab -> lab.contains(1));
-        Check.changesNothing("get", busy, lab -> lab.get(1));
-        Check.changesNothing("slotOf", busy, lab -> lab.slotOf(1));
-        Check.changesNothing("probe", busy, lab -> lab.probe(1, 7));
-        Check.changesNothing("step", busy, lab -> lab.step(1));
-        Check.changesNothing("probes", busy, lab -> lab.probes(1));
-        Check.changesNothing("probesBySlot", busy, lab -> lab.probesBySlot(1));
-        Check.changesNothing("keyAt", busy, lab -> lab.keyAt(1));
-        Check.changesNothing("hardestKey", busy, HashLab::hardestKey);
+        Labs.changesNothing("contains", busy, lab -> lab.contains(1));
+        Labs.changesNothing("get", busy, lab -> lab.get(1));
+        Labs.changesNothing("slotOf", busy, lab -> lab.slotOf(1));
+        Labs.changesNothing("probe", busy, lab -> lab.probe(1, 7));
+        Labs.changesNothing("step", busy, lab -> lab.step(1));
+        Labs.changesNothing("probes", busy, lab -> lab.probes(1));
+        Labs.changesNothing("probesBySlot", busy, lab -> lab.probesBySlot(1));
+        Labs.changesNothing("keyAt", busy, lab -> lab.keyAt(1));
+        Labs.changesNothing("hardestKey", busy, HashLab::hardestKey);
     }
 }

@@ -164,8 +164,8 @@ final class BoundaryOutputTest {
     private static void promise43InitiallyEmpty() {
         Check.sentence("43", "Returns a character of the output line, which is initially empty.");
         for (int index : new int[] {0, 7, -1}) {
-            Check.refused("index " + index, INDEX, HashLab::new, lab -> lab.charAt(index));
-            Check.refused("before a line is written, index " + index, INDEX, Labs::crowded, lab -> lab.charAt(index));
+            Labs.refused("index " + index, INDEX, HashLab::new, lab -> lab.charAt(index));
+            Labs.refused("before a line is written, index " + index, INDEX, Labs::crowded, lab -> lab.charAt(index));
         }
     }
 
@@ -184,8 +184,8 @@ final class BoundaryOutputTest {
     private static void promise43IndexOutOfRange() {
         Check.sentence("43", "Throws `IndexOutOfBoundsException` if the index is negative or not less than the length");
         for (int index : new int[] {-1, 8, 9, 64, 639, 640, Integer.MIN_VALUE, Integer.MAX_VALUE}) {
-            Check.refused("the keys, index " + index, INDEX, Labs::busy, lab -> lab.charAt(index));
-            Check.refused("the slots, index " + index, INDEX, () -> {
+            Labs.refused("the keys, index " + index, INDEX, Labs::busy, lab -> lab.charAt(index));
+            Labs.refused("the slots, index " + index, INDEX, () -> {
                 HashLab lab = Labs.busy();
                 lab.writeSlots();
                 return lab;
@@ -212,11 +212,11 @@ final class BoundaryOutputTest {
 
     private static void promises41To43ChangeNothingElse() {
         Check.sentence("41 to 43", "Nothing is promised beyond the answers and state changes described above");
-        Check.changesNothing("writeKeys, whose line it is already", Labs::busy, HashLab::writeKeys);
-        Check.changesNothing("writeSlots, and then the keys again", Labs::busy, lab -> {
+        Labs.changesNothing("writeKeys, whose line it is already", Labs::busy, HashLab::writeKeys);
+        Labs.changesNothing("writeSlots, and then the keys again", Labs::busy, lab -> {
             lab.writeSlots();
             lab.writeKeys();
         });
-        Check.changesNothing("charAt", Labs::busy, lab -> lab.charAt(0));
+        Labs.changesNothing("charAt", Labs::busy, lab -> lab.charAt(0));
     }
 }

@@ -20,6 +20,7 @@ final class BoundaryProgramsTest {
         promise44Full();
         promise44EmptyAgain();
         promise45NumbersAtTheirLeastAndGreatest();
+        promise45Repetitions();
         promise45DigitsAtMost();
         promise45LongestProgram();
         promise45NumberOfCommands();
@@ -63,9 +64,9 @@ final class BoundaryProgramsTest {
 
     private static void promise44Full() {
         Check.sentence("44", "Throws `IllegalStateException` if the buffer contains 60 characters");
-        Check.refused("a program of sixty", STATE, () -> typed(SIXTY), lab -> lab.type('2'));
-        Check.refused("a program of sixty, and any character", STATE, () -> typed(SIXTY), lab -> lab.type((char) 0));
-        Check.refused("sixty that are no program", STATE, () -> typed("clear;".repeat(10)), lab -> lab.type('c'));
+        Labs.refused("a program of sixty", STATE, () -> typed(SIXTY), lab -> lab.type('2'));
+        Labs.refused("a program of sixty, and any character", STATE, () -> typed(SIXTY), lab -> lab.type((char) 0));
+        Labs.refused("sixty that are no program", STATE, () -> typed("clear;".repeat(10)), lab -> lab.type('c'));
         HashLab lab = typed(SIXTY.substring(0, 59));
         Check.equal("the sixtieth", lab.type('2'), 60);
         Check.throwsExactly("the next", STATE, () -> lab.type('2'));
@@ -114,6 +115,17 @@ final class BoundaryProgramsTest {
         Check.equal("45: each of kind, seed and rebuild rebuilds", lab.rebuilds(), 6);
         Labs.run(lab, "limit 070;clear");
         Check.equal("45: clear", Labs.state(lab), "8/0/0/70/6/0/0/0:||||||||");
+    }
+
+    private static void promise45Repetitions() {
+        Check.sentence("Terms", "`program = command { \";\" command`}");
+        Check.equal("45: no repetition", Labs.run(new HashLab(), "rebuild"), 1);
+        Check.equal("45: one repetition", Labs.run(new HashLab(), "rebuild;seed 1"), 2);
+        Check.equal("45: nine repetitions", Labs.run(new HashLab(), "clear;".repeat(9) + "clear"), 10);
+        error("rebuild;", 8);
+        error("rebuild;;seed 1", 8);
+        error(";rebuild", 0);
+        error("rebuild seed 1", 7);
     }
 
     private static void promise45DigitsAtMost() {
@@ -229,10 +241,10 @@ final class BoundaryProgramsTest {
         Check.sentence("Terms", "A method that throws an exception changes nothing, except that run() empties the program"
                 + " buffer and records a syntax error or a failed command.");
         for (String text : new String[] {"", "clear;", "put 5=5;x"}) {
-            Check.refused("45: the text " + text, ARGUMENT, () -> afterFailing(text), lab -> Labs.run(lab, text));
+            Labs.refused("45: the text " + text, ARGUMENT, () -> afterFailing(text), lab -> Labs.run(lab, text));
         }
         for (String text : new String[] {"limit 24", "clear;kind l;remove 5", "put 5=5;put 6=6;put 7=7;limit 91"}) {
-            Check.refused("45: the text " + text, FAILED, () -> afterFailing(text), lab -> Labs.run(lab, text));
+            Labs.refused("45: the text " + text, FAILED, () -> afterFailing(text), lab -> Labs.run(lab, text));
         }
     }
 
@@ -357,14 +369,14 @@ final class BoundaryProgramsTest {
 
     private static void promise46NoSuchText() {
         Check.sentence("46", "Throws `NoSuchElementException` if there was no such text");
-        Check.refused("a new object", ELEMENT, HashLab::new, HashLab::errorPosition);
-        Check.refused("programs and a command that failed", ELEMENT, () -> {
+        Labs.refused("a new object", ELEMENT, HashLab::new, HashLab::errorPosition);
+        Labs.refused("programs and a command that failed", ELEMENT, () -> {
             HashLab lab = new HashLab();
             Labs.run(lab, "clear");
             Labs.outcome(() -> Labs.run(lab, "limit 1"));
             return lab;
         }, HashLab::errorPosition);
-        Check.refused("a wrong text that was only typed", ELEMENT, () -> typed("x"), HashLab::errorPosition);
+        Labs.refused("a wrong text that was only typed", ELEMENT, () -> typed("x"), HashLab::errorPosition);
     }
 
     private static void failed(String text, int due) {
@@ -405,8 +417,8 @@ final class BoundaryProgramsTest {
 
     private static void promise47NoCommandFailed() {
         Check.sentence("47", "Throws `NoSuchElementException` if no command failed");
-        Check.refused("a new object", ELEMENT, HashLab::new, HashLab::failedCommand);
-        Check.refused("programs, a text that was none, and a call that failed", ELEMENT, () -> {
+        Labs.refused("a new object", ELEMENT, HashLab::new, HashLab::failedCommand);
+        Labs.refused("programs, a text that was none, and a call that failed", ELEMENT, () -> {
             HashLab lab = new HashLab();
             Labs.run(lab, "clear");
             Labs.outcome(() -> Labs.run(lab, "limit 1;"));

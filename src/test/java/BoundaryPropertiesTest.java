@@ -237,15 +237,15 @@ final class BoundaryPropertiesTest {
 
     private static void promises9To17ChangeNothing() {
         Check.sentence("9 to 17", "Nothing is promised beyond the answers and state changes described above");
-        Check.changesNothing("size", Labs::busy, HashLab::size);
-        Check.changesNothing("capacity", Labs::busy, HashLab::capacity);
-        Check.changesNothing("tombstones", Labs::busy, HashLab::tombstones);
-        Check.changesNothing("kind", Labs::busy, HashLab::kind);
-        Check.changesNothing("seed", Labs::busy, HashLab::seed);
-        Check.changesNothing("limit", Labs::busy, HashLab::limit);
-        Check.changesNothing("rebuilds", Labs::busy, HashLab::rebuilds);
-        Check.changesNothing("growths", Labs::busy, HashLab::growths);
-        Check.changesNothing("isNearLimit", Labs::busy, HashLab::isNearLimit);
-        Check.changesNothing("isNearLimit of a crowded table", Labs::crowded, HashLab::isNearLimit);
+        Labs.changesNothing("size", Labs::busy, HashLab::size);
+        Labs.changesNothing("capacity", Labs::busy, HashLab::capacity);
+        Labs.changesNothing("tombstones", Labs::busy, HashLab::tombstones);
+        Labs.changesNothing("kind", Labs::busy, HashLab::kind);
+        Labs.changesNothing("seed", Labs::busy, HashLab::seed);
+        Labs.changesNothing("limit", Labs::busy, HashLab::limit);
+        Labs.changesNothing("rebuilds", Labs::busy, HashLab::rebuilds);
+        Labs.changesNothing("growths", Labs::busy, HashLab::growths);
+        Labs.changesNothing("isNearLimit", Labs::busy, HashLab::isNearLimit);
+        Labs.changesNothing("isNearLimit of a crowded table", Labs::crowded, HashLab::isNearLimit);
     }
 }

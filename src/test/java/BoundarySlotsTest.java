@@ -63,7 +63,7 @@ final class BoundarySlotsTest {
     private static void promise27NoSuchSlot() {
         Check.sentence("27", "Throws `IndexOutOfBoundsException` if there is no such slot");
         for (int slot : NO_SLOTS) {
-            Check.refused("slot " + slot, INDEX, Labs::busy, lab -> lab.isFull(slot));
+            Labs.refused("slot " + slot, INDEX, Labs::busy, lab -> lab.isFull(slot));
         }
         for (int capacity : CAPACITIES) {
             Check.throwsExactly("the capacity " + capacity, INDEX, () -> Labs.emptyOf(capacity).isFull(capacity));
@@ -95,7 +95,7 @@ final class BoundarySlotsTest {
     private static void promise28NoSuchSlot() {
         Check.sentence("28", "Throws `IndexOutOfBoundsException` if there is no such slot");
         for (int slot : NO_SLOTS) {
-            Check.refused("slot " + slot, INDEX, Labs::busy, lab -> lab.isTombstone(slot));
+            Labs.refused("slot " + slot, INDEX, Labs::busy, lab -> lab.isTombstone(slot));
         }
         for (int capacity : CAPACITIES) {
             Check.throwsExactly("the capacity " + capacity, INDEX, () -> Labs.emptyOf(capacity).isTombstone(capacity));
@@ -122,8 +122,8 @@ final class BoundarySlotsTest {
     private static void promise29NoSuchSlot() {
         Check.sentence("29", "Throws `IndexOutOfBoundsException` if there is no such slot");
         for (int slot : NO_SLOTS) {
-            Check.refused("slot " + slot, INDEX, Labs::busy, lab -> lab.keyIn(slot));
-            Check.refused("in an empty table, slot " + slot, INDEX, HashLab::new, lab -> lab.keyIn(slot));
+            Labs.refused("slot " + slot, INDEX, Labs::busy, lab -> lab.keyIn(slot));
+            Labs.refused("in an empty table, slot " + slot, INDEX, HashLab::new, lab -> lab.keyIn(slot));
         }
         for (int capacity : CAPACITIES) {
             Check.throwsExactly("the capacity " + capacity, INDEX, () -> Labs.emptyOf(capacity).keyIn(capacity));
@@ -133,8 +133,8 @@ final class BoundarySlotsTest {
     private static void promise29NotFull() {
         Check.sentence("29", "Throws `NoSuchElementException` if the slot is not full");
         for (int slot : new int[] {0, 7}) {
-            Check.refused("an empty slot " + slot, ELEMENT, HashLab::new, lab -> lab.keyIn(slot));
-            Check.refused("a tombstone in slot " + slot, ELEMENT, () -> Labs.buried(Labs.atHomes(0, 7)),
+            Labs.refused("an empty slot " + slot, ELEMENT, HashLab::new, lab -> lab.keyIn(slot));
+            Labs.refused("a tombstone in slot " + slot, ELEMENT, () -> Labs.buried(Labs.atHomes(0, 7)),
                     lab -> lab.keyIn(slot));
         }
         for (int capacity : CAPACITIES) {
@@ -243,7 +243,7 @@ final class BoundarySlotsTest {
     private static void promise31NoSuchSlot() {
         Check.sentence("31", "Throws `IndexOutOfBoundsException` if there is no such slot");
         for (int slot : NO_SLOTS) {
-            Check.refused("slot " + slot, INDEX, Labs::busy, lab -> lab.clusterSize(slot));
+            Labs.refused("slot " + slot, INDEX, Labs::busy, lab -> lab.clusterSize(slot));
         }
         for (int capacity : CAPACITIES) {
             Check.throwsExactly("the capacity " + capacity, INDEX, () -> Labs.emptyOf(capacity).clusterSize(capacity));
@@ -331,12 +331,12 @@ final class BoundarySlotsTest {
 
     private static void promises27To33ChangeNothing() {
         Check.sentence("27 to 33", "Nothing is promised beyond the answers and state changes described above");
-        Check.changesNothing("isFull", Labs::busy, lab -> lab.isFull(0));
-        Check.changesNothing("isTombstone", Labs::busy, lab -> lab.isTombstone(0));
-        Check.changesNothing("keyIn", Labs::busy, lab -> lab.keyIn(0));
-        Check.changesNothing("clusters", Labs::busy, HashLab::clusters);
-        Check.changesNothing("clusterSize", Labs::busy, lab -> lab.clusterSize(0));
-        Check.changesNothing("largestCluster", Labs::busy, HashLab::largestCluster);
-        Check.changesNothing("largestClusterByHalves", Labs::busy, HashLab::largestClusterByHalves);
+        Labs.changesNothing("isFull", Labs::busy, lab -> lab.isFull(0));
+        Labs.changesNothing("isTombstone", Labs::busy, lab -> lab.isTombstone(0));
+        Labs.changesNothing("keyIn", Labs::busy, lab -> lab.keyIn(0));
+        Labs.changesNothing("clusters", Labs::busy, HashLab::clusters);
+        Labs.changesNothing("clusterSize", Labs::busy, lab -> lab.clusterSize(0));
+        Labs.changesNothing("largestCluster", Labs::busy, HashLab::largestCluster);
+        Labs.changesNothing("largestClusterByHalves", Labs::busy, HashLab::largestClusterByHalves);
     }
 }

@@ -86,8 +86,8 @@ final class BoundaryStatisticsTest {
 
     private static void promise34NoKeys() {
         Check.sentence("34", "Throws `ArithmeticException` if there are no keys");
-        Check.refused("an empty table", ARITHMETIC, HashLab::new, HashLab::meanProbes);
-        Check.refused("tombstones alone", ARITHMETIC, BoundaryStatisticsTest::graves, HashLab::meanProbes);
+        Labs.refused("an empty table", ARITHMETIC, HashLab::new, HashLab::meanProbes);
+        Labs.refused("tombstones alone", ARITHMETIC, BoundaryStatisticsTest::graves, HashLab::meanProbes);
         HashLab cleared = Labs.busy();
         cleared.clear();
         Check.throwsExactly("a cleared table", ARITHMETIC, cleared::meanProbes);
@@ -116,8 +116,8 @@ final class BoundaryStatisticsTest {
 
     private static void promise35NoKeys() {
         Check.sentence("35", "Throws `ArithmeticException` if there are no keys");
-        Check.refused("an empty table", ARITHMETIC, HashLab::new, HashLab::meanProbesBits);
-        Check.refused("tombstones alone", ARITHMETIC, BoundaryStatisticsTest::graves, HashLab::meanProbesBits);
+        Labs.refused("an empty table", ARITHMETIC, HashLab::new, HashLab::meanProbesBits);
+        Labs.refused("tombstones alone", ARITHMETIC, BoundaryStatisticsTest::graves, HashLab::meanProbesBits);
         HashLab cleared = Labs.busy();
         cleared.clear();
         Check.throwsExactly("a cleared table", ARITHMETIC, cleared::meanProbesBits);
@@ -304,23 +304,23 @@ final class BoundaryStatisticsTest {
         Check.sentence("38", "Makes a trial, by which neither the table nor the numbers of rebuilds and growths change.");
         for (int kind = 0; kind < 3; kind++) {
             int tried = kind;
-            Check.changesNothing("kind " + kind + " of a busy table", Labs::busy, lab -> lab.trial(tried, 0, 40));
-            Check.changesNothing("kind " + kind + " of a crowded table", Labs::crowded,
+            Labs.changesNothing("kind " + kind + " of a busy table", Labs::busy, lab -> lab.trial(tried, 0, 40));
+            Labs.changesNothing("kind " + kind + " of a crowded table", Labs::crowded,
                     lab -> lab.trial(tried, 10006, 40));
-            Check.changesNothing("kind " + kind + " of a new object", HashLab::new, lab -> lab.trial(tried, 1, 1));
+            Labs.changesNothing("kind " + kind + " of a new object", HashLab::new, lab -> lab.trial(tried, 1, 1));
         }
     }
 
     private static void promise38OutOfRange() {
         Check.sentence("38", "Throws `IllegalArgumentException` if a number is out of range");
         for (int kind : new int[] {-1, 3, Integer.MIN_VALUE, Integer.MAX_VALUE}) {
-            Check.refused("kind " + kind, ARGUMENT, Labs::busy, lab -> lab.trial(kind, 0, 1));
+            Labs.refused("kind " + kind, ARGUMENT, Labs::busy, lab -> lab.trial(kind, 0, 1));
         }
         for (int start : new int[] {-1, 10007, Integer.MIN_VALUE, Integer.MAX_VALUE}) {
-            Check.refused("start " + start, ARGUMENT, Labs::busy, lab -> lab.trial(0, start, 1));
+            Labs.refused("start " + start, ARGUMENT, Labs::busy, lab -> lab.trial(0, start, 1));
         }
         for (int count : new int[] {0, -1, 41, Integer.MIN_VALUE, Integer.MAX_VALUE}) {
-            Check.refused("count " + count, ARGUMENT, Labs::busy, lab -> lab.trial(0, 0, count));
+            Labs.refused("count " + count, ARGUMENT, Labs::busy, lab -> lab.trial(0, 0, count));
         }
     }
 
@@ -360,10 +360,10 @@ final class BoundaryStatisticsTest {
     private static void promise39OutOfRange() {
         Check.sentence("39", "Throws `IllegalArgumentException` if a number is out of range");
         for (int start : new int[] {-1, 10007, Integer.MIN_VALUE, Integer.MAX_VALUE}) {
-            Check.refused("start " + start, ARGUMENT, Labs::busy, lab -> lab.bestKind(start, 1));
+            Labs.refused("start " + start, ARGUMENT, Labs::busy, lab -> lab.bestKind(start, 1));
         }
         for (int count : new int[] {0, -1, 41, Integer.MIN_VALUE, Integer.MAX_VALUE}) {
-            Check.refused("count " + count, ARGUMENT, Labs::busy, lab -> lab.bestKind(0, count));
+            Labs.refused("count " + count, ARGUMENT, Labs::busy, lab -> lab.bestKind(0, count));
         }
     }
 
@@ -397,18 +397,18 @@ final class BoundaryStatisticsTest {
         Check.sentence("40", "Checks the invariants: both ways of counting probes agree for all keys, and both ways of"
                 + " measuring the largest cluster; the probe sequence of every key visits all slots; and a table that is"
                 + " rebuilt with another kind of probing, for each kind, contains the same keys.");
-        Check.changesNothing("a new object", HashLab::new, HashLab::isConsistent);
-        Check.changesNothing("a busy table", Labs::busy, HashLab::isConsistent);
-        Check.changesNothing("a table beyond its limit", Labs::crowded, HashLab::isConsistent);
-        Check.changesNothing("tombstones alone", BoundaryStatisticsTest::graves, HashLab::isConsistent);
+        Labs.changesNothing("a new object", HashLab::new, HashLab::isConsistent);
+        Labs.changesNothing("a busy table", Labs::busy, HashLab::isConsistent);
+        Labs.changesNothing("a table beyond its limit", Labs::crowded, HashLab::isConsistent);
+        Labs.changesNothing("tombstones alone", BoundaryStatisticsTest::graves, HashLab::isConsistent);
     }
 
     private static void promises34To39ChangeNothing() {
         Check.sentence("34 to 39", "Nothing is promised beyond the answers and state changes described above");
-        Check.changesNothing("meanProbes", Labs::busy, HashLab::meanProbes);
-        Check.changesNothing("meanProbesBits", Labs::busy, HashLab::meanProbesBits);
-        Check.changesNothing("load", Labs::busy, HashLab::load);
-        Check.changesNothing("loadBits", Labs::busy, HashLab::loadBits);
-        Check.changesNothing("bestKind", Labs::busy, lab -> lab.bestKind(10006, 40));
+        Labs.changesNothing("meanProbes", Labs::busy, HashLab::meanProbes);
+        Labs.changesNothing("meanProbesBits", Labs::busy, HashLab::meanProbesBits);
+        Labs.changesNothing("load", Labs::busy, HashLab::load);
+        Labs.changesNothing("loadBits", Labs::busy, HashLab::loadBits);
+        Labs.changesNothing("bestKind", Labs::busy, lab -> lab.bestKind(10006, 40));
     }
 }

@@ -18,8 +18,11 @@ final class BoundaryTermsTest {
         noKeyIsContainedTwice();
         tombstonesAreUsedSlots();
         hashesAtTheirLeastAndGreatest();
+        homesAtTheirLeastAndGreatest();
         stepsAtTheirLeastAndGreatest();
+        sequencesAreAsLongAsTheCapacity();
         sequencesGoAroundTheEnd();
+        kindsAtTheirLeastAndGreatest();
         searchInAnEmptyTable();
         searchThatExaminesAllSlots();
         searchAroundTheEnd();
@@ -28,23 +31,25 @@ final class BoundaryTermsTest {
         insertionIntoTheFirstTombstone();
         insertionIntoTheEmptySlot();
         insertionInTheRebuiltTable();
+        limitAtItsLeastAndGreatest();
         limitIsNotExceededWhenReached();
         rebuildingForPutWithTheSameCapacity();
         rebuildingForPutAtGreatestCapacity();
         keyThatCannotBePut();
         rebuildingInTheOrderOfSlots();
         rebuildingWithoutUsedSlots();
+        theLastOf512Calls();
         Check.end();
     }
 
     private static void theConditionThatIsListedFirst() {
         Check.sentence("Terms", "If several conditions for an exception hold, the exception that is listed first is"
                 + " thrown.");
-        Check.refused("2: key out of range, and no room", ARGUMENT, Labs::crowded, lab -> lab.put(10000, 0));
-        Check.refused("2: value out of range, and no room", ARGUMENT, Labs::crowded, lab -> lab.put(6, 1000));
-        Check.refused("21: key and index too small", ARGUMENT, Labs::busy, lab -> lab.probe(-1, -1));
-        Check.refused("21: key and index too great", ARGUMENT, Labs::busy, lab -> lab.probe(10000, 8));
-        Check.refused("29: no such slot, so it is not full", INDEX, HashLab::new, lab -> lab.keyIn(8));
+        Labs.refused("2: key out of range, and no room", ARGUMENT, Labs::crowded, lab -> lab.put(10000, 0));
+        Labs.refused("2: value out of range, and no room", ARGUMENT, Labs::crowded, lab -> lab.put(6, 1000));
+        Labs.refused("21: key and index too small", ARGUMENT, Labs::busy, lab -> lab.probe(-1, -1));
+        Labs.refused("21: key and index too great", ARGUMENT, Labs::busy, lab -> lab.probe(10000, 8));
+        Labs.refused("29: no such slot, so it is not full", INDEX, HashLab::new, lab -> lab.keyIn(8));
         HashLab lab = new HashLab();
         Check.throwsExactly("45: a command would fail, but the text is no program", ARGUMENT,
                 () -> Labs.run(lab, "limit 24;x"));
@@ -118,10 +123,10 @@ final class BoundaryTermsTest {
         lab.put(9999, -999);
         lab.put(0, 999);
         Check.equal("2: least and greatest key and value", Labs.keys(lab), "0=999,8=3,9999=-999");
-        Check.refused("2: one below the least key", ARGUMENT, Labs::busy, busy -> busy.put(-1, 0));
-        Check.refused("2: one above the greatest key", ARGUMENT, Labs::busy, busy -> busy.put(10000, 0));
-        Check.refused("2: one below the least value", ARGUMENT, Labs::busy, busy -> busy.put(5, -1000));
-        Check.refused("2: one above the greatest value", ARGUMENT, Labs::busy, busy -> busy.put(5, 1000));
+        Labs.refused("2: one below the least key", ARGUMENT, Labs::busy, busy -> busy.put(-1, 0));
+        Labs.refused("2: one above the greatest key", ARGUMENT, Labs::busy, busy -> busy.put(10000, 0));
+        Labs.refused("2: one below the least value", ARGUMENT, Labs::busy, busy -> busy.put(5, -1000));
+        Labs.refused("2: one above the greatest value", ARGUMENT, Labs::busy, busy -> busy.put(5, 1000));
     }
 
     private static void tombstonesAreUsedSlots() {
@@ -162,6 +167,23 @@ final class BoundaryTermsTest {
         Check.equal("22: step of key 9999 with seed 999", eight.step(9999), 3);
     }
 
+    private static void homesAtTheirLeastAndGreatest() {
+        Check.sentence("Terms", "The home of a key is its hash mod the capacity.");
+        for (int capacity : CAPACITIES) {
+            HashLab lab = Labs.emptyOf(capacity);
+            for (int kind = 0; kind < 3; kind++) {
+                lab.setKind(kind);
+                String what = " of " + capacity + ", kind " + kind;
+                Check.equal("21: least" + what, lab.probe(Keys.at(capacity, 0, 3), 0), 0);
+                Check.equal("21: greatest" + what, lab.probe(Keys.at(capacity, capacity - 1, 3), 0), capacity - 1);
+                int key = Keys.at(capacity, capacity - 1, 4);
+                lab.put(key, 0);
+                Check.equal("20: where it is put" + what, lab.slotOf(key), capacity - 1);
+                lab.remove(key);
+            }
+        }
+    }
+
     private static void stepsAtTheirLeastAndGreatest() {
         Check.sentence("Terms", "The step of a key is 1 for linear and for triangular probing; for double hashing it is"
                 + " 2 d + 1, where d is the hash divided by the capacity, mod half the capacity.");
@@ -176,6 +198,25 @@ final class BoundaryTermsTest {
             lab.setKind(2);
             Check.equal("22: least of " + capacity, lab.step(least), 1);
             Check.equal("22: greatest of " + capacity, lab.step(greatest), capacity - 1);
+        }
+    }
+
+    private static void sequencesAreAsLongAsTheCapacity() {
+        Check.sentence("Terms", "The probe sequence of a key consists of as many slots as the capacity;");
+        for (int capacity : CAPACITIES) {
+            for (int kind = 0; kind < 3; kind++) {
+                HashLab lab = Labs.emptyOf(capacity);
+                lab.setKind(kind);
+                for (int key : new int[] {0, 1, 9999}) {
+                    long visited = 0;
+                    for (int index = 0; index < capacity; index++) {
+                        visited |= 1L << lab.probe(key, index);
+                    }
+                    String what = "key " + key + " of " + capacity + ", kind " + kind;
+                    Check.equal("21, 40: all slots, " + what, Long.bitCount(visited), capacity);
+                    Check.throwsExactly("21: no more, " + what, INDEX, () -> lab.probe(key, capacity));
+                }
+            }
         }
     }
 
@@ -210,6 +251,24 @@ final class BoundaryTermsTest {
             text.append(lab.probe(key, index)).append(' ');
         }
         return text.toString();
+    }
+
+    private static void kindsAtTheirLeastAndGreatest() {
+        Check.sentence("Terms", "The kind of probing is 0 for linear probing, 1 for triangular probing and 2 for double"
+                + " hashing, initially 0.");
+        HashLab lab = new HashLab();
+        int key = Keys.stepping(8, 0, 5, 0);
+        Check.equal("12: initially", lab.kind(), 0);
+        Check.equal("21: initially", lab.probe(key, 2), 2);
+        int[] due = {2, 3, 2 * 5 % 8};
+        for (int kind = 2; kind >= 0; kind--) {
+            lab.setKind(kind);
+            Check.equal("12: kind " + kind, lab.kind(), kind);
+            Check.equal("21: kind " + kind, lab.probe(key, 2), due[kind]);
+            Check.equal("22: kind " + kind, lab.step(key), kind == 2 ? 5 : 1);
+        }
+        Labs.refused("5: one below the least", ARGUMENT, HashLab::new, other -> other.setKind(-1));
+        Labs.refused("5: one above the greatest", ARGUMENT, HashLab::new, other -> other.setKind(3));
     }
 
     private static void searchInAnEmptyTable() {
@@ -367,10 +426,25 @@ final class BoundaryTermsTest {
         Check.equal("11: nor is it left", behind.tombstones(), 0);
     }
 
+    private static void limitAtItsLeastAndGreatest() {
+        Check.sentence("Terms", "The load limit is a percentage from 25 to 90, initially 70.");
+        HashLab lab = new HashLab();
+        Check.equal("14: initially", lab.limit(), 70);
+        Labs.putAll(lab, 1, 2, 3, 4, 5);
+        Check.equal("10: five of eight are 62.5 percent", lab.capacity(), 8);
+        lab.put(6, 0);
+        Check.equal("10: six of eight are 75 percent", lab.capacity(), 16);
+        lab.setLimit(25);
+        Check.equal("14: the least", lab.limit(), 25);
+        lab.setLimit(90);
+        Check.equal("14: the greatest", lab.limit(), 90);
+        Labs.refused("7: one below the least", ARGUMENT, HashLab::new, other -> other.setLimit(24));
+        Labs.refused("7: one above the greatest", ARGUMENT, HashLab::new, other -> other.setLimit(91));
+    }
+
     private static void limitIsNotExceededWhenReached() {
         Check.sentence("Terms", "A number u of slots exceeds the limit for a capacity c if 100 u is greater than the"
                 + " limit multiplied by c.");
-        Check.equal("14: initially", new HashLab().limit(), 70);
         int[][] most = {{25, 2}, {37, 2}, {38, 3}, {49, 3}, {50, 4}, {62, 4}, {63, 5}, {70, 5}, {74, 5}, {75, 6}, {87, 6},
             {88, 7}, {90, 7}};
         for (int[] pair : most) {
@@ -450,12 +524,12 @@ final class BoundaryTermsTest {
         just.setLimit(25);
         Check.isTrue("2: 4 of 16 at the limit of 25", just.put(4, 0));
         Check.equal("10: grown", just.capacity(), 16);
-        Check.refused("2: 5 of 16 at the limit of 25", STATE, () -> {
+        Labs.refused("2: 5 of 16 at the limit of 25", STATE, () -> {
             HashLab lab = Labs.with(1, 2, 3, 4);
             lab.setLimit(25);
             return lab;
         }, lab -> lab.put(5, 0));
-        Check.refused("2: 5 of 16 at the limit of 31", STATE, () -> {
+        Labs.refused("2: 5 of 16 at the limit of 31", STATE, () -> {
             HashLab lab = Labs.with(1, 2, 3, 4);
             lab.setLimit(31);
             return lab;
@@ -509,5 +583,36 @@ final class BoundaryTermsTest {
         both.remove(Keys.at(8, 0, 1));
         both.rebuild();
         Check.equal("4: the last key goes home", both.slotOf(Keys.at(8, 0, 2)), 0);
+    }
+
+    private static void theLastOf512Calls() {
+        Check.sentence("What it is", "An object is used for at most 512 calls after it has been made; what later calls"
+                + " answer is free.");
+        HashLab rebuilt = new HashLab();
+        for (int call = 1; call <= 511; call++) {
+            rebuilt.rebuild();
+        }
+        Check.equal("15: 511 rebuilds, and the last call", rebuilt.rebuilds(), 511);
+        HashLab grown = new HashLab();
+        grown.setLimit(25);
+        for (int call = 2; call <= 505; call += 4) {
+            grown.put(1, 1);
+            grown.put(2, 2);
+            grown.put(3, 3);
+            grown.clear();
+        }
+        for (int call = 506; call <= 510; call++) {
+            grown.undo();
+        }
+        Check.equal("48: five of the eight latest changes undone, and one more", grown.undo(), 2);
+        Check.equal("16: 126 growths, of which two are undone, and the last call", grown.growths(), 124);
+        HashLab put = new HashLab();
+        for (int call = 1; call <= 511; call += 2) {
+            Check.isTrue("2: put in call " + call, put.put(call, 1));
+            if (call < 511) {
+                Check.equal("3: remove in call " + (call + 1), put.remove(call), 1);
+            }
+        }
+        Check.equal("18: the last key, in the last call", put.contains(511), true);
     }
 }

@@ -199,25 +199,25 @@ final class BoundaryUndoTest {
 
     private static void promise48NoChange() {
         Check.sentence("48", "Throws `IllegalStateException` if no change can be undone");
-        Check.refused("a new object", STATE, HashLab::new, HashLab::undo);
-        Check.refused("all undone", STATE, () -> {
+        Labs.refused("a new object", STATE, HashLab::new, HashLab::undo);
+        Labs.refused("all undone", STATE, () -> {
             HashLab lab = Labs.with(1);
             lab.undo();
             return lab;
         }, HashLab::undo);
-        Check.refused("eight of nine undone", STATE, () -> {
+        Labs.refused("eight of nine undone", STATE, () -> {
             HashLab lab = limits(31, 39);
             for (int n = 0; n < 8; n++) {
                 lab.undo();
             }
             return lab;
         }, HashLab::undo);
-        Check.refused("a restored state", STATE, () -> {
+        Labs.refused("a restored state", STATE, () -> {
             HashLab lab = Labs.busy();
             lab.restore();
             return lab;
         }, HashLab::undo);
-        Check.refused("refused calls alone", STATE, () -> {
+        Labs.refused("refused calls alone", STATE, () -> {
             HashLab lab = new HashLab();
             Labs.outcome(() -> lab.remove(0));
             Labs.outcome(() -> Labs.run(lab, "limit 1"));
@@ -355,7 +355,7 @@ final class BoundaryUndoTest {
 
     private static void promise49IsNoChange() {
         Check.sentence("49", "Saves the state (and leaves it)");
-        Check.changesNothing("of a busy table, where the same was saved and restored", () -> {
+        Labs.changesNothing("of a busy table, where the same was saved and restored", () -> {
             HashLab lab = Labs.busy();
             lab.save();
             return lab;
@@ -419,8 +419,8 @@ final class BoundaryUndoTest {
 
     private static void promise50NothingSaved() {
         Check.sentence("50", "Throws `IllegalStateException` if no state was saved");
-        Check.refused("a new object", STATE, HashLab::new, HashLab::restore);
-        Check.refused("a changed one, of which nothing can be undone by that", STATE, Labs::crowded, HashLab::restore);
+        Labs.refused("a new object", STATE, HashLab::new, HashLab::restore);
+        Labs.refused("a changed one, of which nothing can be undone by that", STATE, Labs::crowded, HashLab::restore);
         HashLab saved = new HashLab();
         saved.save();
         Check.throwsExactly("another object saved its own", STATE, () -> new HashLab().restore());

@@ -1,6 +1,3 @@
-import java.util.function.Consumer;
-import java.util.function.Supplier;
-
 /** Counts and prints the answers that are not as due. */
 final class Check {
 
@@ -50,21 +47,6 @@ final class Check {
             got = thrown.getClass().getName();
         }
         equal(what, got, due.getName());
-    }
-
-    /** The call must throw, and leave its laboratory like another one that was made in the same way. */
-    static void refused(String what, Class<? extends RuntimeException> due, Supplier<HashLab> maker,
-            Consumer<HashLab> call) {
-        HashLab lab = maker.get();
-        throwsExactly(what, due, () -> call.accept(lab));
-        equal(what + " changed something and", Labs.everything(lab), Labs.everything(maker.get()));
-    }
-
-    /** The call must not throw, and leave its laboratory like another one that was made in the same way. */
-    static void changesNothing(String what, Supplier<HashLab> maker, Consumer<HashLab> call) {
-        HashLab lab = maker.get();
-        call.accept(lab);
-        equal(what + " changed something and", Labs.everything(lab), Labs.everything(maker.get()));
     }
 
     /** Ends the program with exit code 1 if an answer was not as due, or if none was looked at. */

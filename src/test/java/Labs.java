@@ -1,3 +1,4 @@
+import java.util.function.Consumer;
 import java.util.function.Supplier;
 
 /** What several tests do with a laboratory. */
@@ -125,6 +126,21 @@ final class Labs {
             text.append(content(lab, slot)).append('|');
         }
         return text.toString();
+    }
+
+    /** The call must throw, and leave its laboratory like another one that was made in the same way. */
+    static void refused(String what, Class<? extends RuntimeException> due, Supplier<HashLab> maker,
+            Consumer<HashLab> call) {
+        HashLab lab = maker.get();
+        Check.throwsExactly(what, due, () -> call.accept(lab));
+        Check.equal(what + " changed something and", everything(lab), everything(maker.get()));
+    }
+
+    /** The call must not throw, and leave its laboratory like another one that was made in the same way. */
+    static void changesNothing(String what, Supplier<HashLab> maker, Consumer<HashLab> call) {
+        HashLab lab = maker.get();
+        call.accept(lab);
+        Check.equal(what + " changed something and", everything(lab), everything(maker.get()));
     }
 
     /** All that can be seen of a laboratory, which is used up by that; its table must be a small one. */
